@@ -64,6 +64,12 @@ final class Due {
         return -2 - (1 + 8 * place + kind);
     }
 
+    static void undoAll(ToffeeTown x) {
+        for (int more = x.count(13); more > 0; more--) {
+            due("undo", x.undo(), more - 1);
+        }
+    }
+
     static String times(String text, int n) {
         return text.repeat(n);
     }
