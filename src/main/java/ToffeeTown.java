@@ -823,12 +823,10 @@ public final class ToffeeTown {
                 if (!readClause(index)) {
                     return false;
                 }
-                if (text.code() == END) {
-                    return true;
+                if (text.code() != SEMICOLON) {
+                    return text.take(END);
                 }
-                if (!text.take(SEMICOLON)) {
-                    return false;
-                }
+                text.skip();
             }
             return text.fail(CLAUSE_TOO_MANY);
         }
@@ -951,12 +949,10 @@ public final class ToffeeTown {
                 if (!readClause(index)) {
                     return false;
                 }
-                if (text.code() == END) {
-                    return true;
+                if (text.code() != SEMICOLON) {
+                    return text.take(END);
                 }
-                if (!text.take(SEMICOLON)) {
-                    return false;
-                }
+                text.skip();
             }
             return text.fail(CLAUSE_TOO_MANY);
         }
@@ -1081,7 +1077,7 @@ public final class ToffeeTown {
 
         private boolean write(int code, int number) {
             if (stepCount >= steps.length) {
-                return text.fail(WRONG);
+                return false;
             }
             steps[stepCount] = number << 6 | code;
             stepCount++;
@@ -1104,37 +1100,28 @@ public final class ToffeeTown {
             int top = 0;
             for (int at = 0; at < steps.length; at++) {
                 int code = steps[at] & 63;
-                if (top >= STACK || (top < needed(code))) {
-                    return 0;
-                }
-                if (code == NUMBER) {
-                    stack[top] = steps[at] >> 6;
-                    top++;
-                } else if (isWithin(code, ONE, DAY)) {
-                    stack[top] = words[code - ONE];
-                    top++;
-                } else if (code == NOT) {
-                    stack[top - 1] = 1 - stack[top - 1];
-                } else if (code == GIVE) {
-                    return stack[top - 1];
-                } else if (code == GIVE_IF) {
-                    if (stack[top - 1] == 1) {
-                        return stack[top - 2];
+                if (code == NUMBER || isWithin(code, ONE, DAY)) {
+                    if (top >= STACK) {
+                        return 0;
                     }
-                    top -= 2;
-                } else {
+                    stack[top] = code == NUMBER ? steps[at] >> 6 : words[code - ONE];
+                    top++;
+                } else if (top >= 1 && code == NOT) {
+                    stack[top - 1] = 1 - stack[top - 1];
+                } else if (top >= 1 && code == GIVE) {
+                    return stack[top - 1];
+                } else if (top < 2) {
+                    return 0;
+                } else if (code != GIVE_IF) {
                     stack[top - 2] = joined(code, stack[top - 2], stack[top - 1]);
                     top--;
+                } else if (stack[top - 1] == 1) {
+                    return stack[top - 2];
+                } else {
+                    top -= 2;
                 }
             }
             return 0;
-        }
-
-        private static int needed(int code) {
-            if (code == NUMBER || isWithin(code, ONE, DAY)) {
-                return 0;
-            }
-            return code == NOT || code == GIVE ? 1 : 2;
         }
 
         private static long joined(int code, long left, long right) {
