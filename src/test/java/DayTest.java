@@ -188,35 +188,29 @@ public final class DayTest {
         Due.due("the less number is the one", x.pourOf(0, 1), 2);
     }
 
-    private static void holds(String test, boolean want) {
-        ToffeeTown x = Due.made("town 20 50 0;house 0;house 5;join 0 1 1", "pour 1 if " + test);
-        x.day();
-        Due.due(test, x.pourOf(0, 1), want ? 2 : 1);
-    }
-
     private static void tests() {
-        holds("1<2", true);
-        holds("2<2", false);
-        holds("2<=2", true);
-        holds("3<=2", false);
-        holds("2=2", true);
-        holds("1=2", false);
-        holds("2>=2", true);
-        holds("1>=2", false);
-        holds("3>2", true);
-        holds("2>2", false);
-        holds("not 1=2", true);
-        holds("not not 1=2", false);
-        holds("not 1=2 and 1=2", false);
-        holds("not [1=2 and 1=2]", true);
-        holds("1=1 or 1=1 and 1=2", true);
-        holds("[1=1 or 1=1] and 1=2", false);
-        holds("1=2 and 1=1 or 1=1", true);
-        holds("1=2 and [1=1 or 1=1]", false);
-        holds("1=2 or 1=2 or 1=1", true);
-        holds("1=2 or 1=1 and 2=2 and 3=4", false);
-        holds("1=2 or 1=1 and 2=2 and 3=3 or 1=2", true);
-        holds("not [1=2 or not [2=2]]", true);
+        Due.holds("1<2", true);
+        Due.holds("2<2", false);
+        Due.holds("2<=2", true);
+        Due.holds("3<=2", false);
+        Due.holds("2=2", true);
+        Due.holds("1=2", false);
+        Due.holds("2>=2", true);
+        Due.holds("1>=2", false);
+        Due.holds("3>2", true);
+        Due.holds("2>2", false);
+        Due.holds("not 1=2", true);
+        Due.holds("not not 1=2", false);
+        Due.holds("not 1=2 and 1=2", false);
+        Due.holds("not [1=2 and 1=2]", true);
+        Due.holds("1=1 or 1=1 and 1=2", true);
+        Due.holds("[1=1 or 1=1] and 1=2", false);
+        Due.holds("1=2 and 1=1 or 1=1", true);
+        Due.holds("1=2 and [1=1 or 1=1]", false);
+        Due.holds("1=2 or 1=2 or 1=1", true);
+        Due.holds("1=2 or 1=1 and 2=2 and 3=4", false);
+        Due.holds("1=2 or 1=1 and 2=2 and 3=3 or 1=2", true);
+        Due.holds("not [1=2 or not [2=2]]", true);
         ToffeeTown x = Due.made("town 20 50 0;house 0;house 5;house 9;join 0 1 1;join 1 2 1", "pour 0 if one=0;pour 7;pour 9");
         x.day();
         Due.due("the first CLAUSE that holds", x.pourOf(1, 2), 2);
@@ -224,24 +218,24 @@ public final class DayTest {
     }
 
     private static void sums() {
-        holds("1+2*3=7", true);
-        holds("2*3+1=7", true);
-        holds("10-3-2=5", true);
-        holds("100/7/2=7", true);
-        holds("100%7*3=6", true);
-        holds("7/0=0", true);
-        holds("7%0=0", true);
-        holds("7/0+1=1", true);
-        holds("0-7<0", true);
-        holds("1-2*4/3=0-1", true);
+        Due.holds("1+2*3=7", true);
+        Due.holds("2*3+1=7", true);
+        Due.holds("10-3-2=5", true);
+        Due.holds("100/7/2=7", true);
+        Due.holds("100%7*3=6", true);
+        Due.holds("7/0=0", true);
+        Due.holds("7%0=0", true);
+        Due.holds("7/0+1=1", true);
+        Due.holds("0-7<0", true);
+        Due.holds("1-2*4/3=0-1", true);
         // 2 to the 63 is the least number, twice that is 0
-        holds("32768*32768*32768*32768*8<0", true);
-        holds("32768*32768*32768*32768*8-1>0", true);
-        holds("32768*32768*32768*32768*16=0", true);
+        Due.holds("32768*32768*32768*32768*8<0", true);
+        Due.holds("32768*32768*32768*32768*8-1>0", true);
+        Due.holds("32768*32768*32768*32768*16=0", true);
         // of the least number: towards 0, and its rest of the same sign
-        holds("32768*32768*32768*32768*8/5=0-32768*32768*32768*32768*8/5", false);
-        holds("32768*32768*32768*32768*8%10=0-8", true);
-        holds("32768*32768*32768*32768*8/32768/32768/32768/32768/3=0-2", true);
+        Due.holds("32768*32768*32768*32768*8/5=0-32768*32768*32768*32768*8/5", false);
+        Due.holds("32768*32768*32768*32768*8%10=0-8", true);
+        Due.holds("32768*32768*32768*32768*8/32768/32768/32768/32768/3=0-2", true);
     }
 
     /** Free by the document, which promises 512 calls: but DAY 999 is not to be seen in fewer. */
