@@ -136,10 +136,14 @@ final class Due {
 
     /** A text with that FAULT, where the text has an @, which is no part of it. */
     static void noTown(String marked, int kind) {
+        townFault(unmarked(marked), marked.indexOf('@'), kind);
+    }
+
+    static void townFault(String text, int place, int kind) {
         ToffeeTown x = new ToffeeTown();
-        due("town '" + marked + "'", town(x, unmarked(marked)), fault(marked.indexOf('@'), kind));
-        due("HILL behind '" + marked + "'", x.count(0), 0);
-        due("bytes behind '" + marked + "'", x.count(15), 0);
+        due("town '" + text + "'", town(x, text), fault(place, kind));
+        due("HILL behind '" + text + "'", x.count(0), 0);
+        due("bytes behind '" + text + "'", x.count(15), 0);
     }
 
     static void isRule(String text) {
@@ -148,10 +152,14 @@ final class Due {
 
     /** As noTown, of a RULE. */
     static void noRule(String marked, int kind) {
+        ruleFault(unmarked(marked), marked.indexOf('@'), kind);
+    }
+
+    static void ruleFault(String text, int place, int kind) {
         ToffeeTown x = new ToffeeTown();
-        due("rule '" + marked + "'", rule(x, unmarked(marked)), fault(marked.indexOf('@'), kind));
-        due("RULES behind '" + marked + "'", x.count(4), 0);
-        due("bytes behind '" + marked + "'", x.count(15), 0);
+        due("rule '" + text + "'", rule(x, text), fault(place, kind));
+        due("RULES behind '" + text + "'", x.count(4), 0);
+        due("bytes behind '" + text + "'", x.count(15), 0);
     }
 
     private static String unmarked(String marked) {

@@ -541,8 +541,9 @@ final class EdgesOfAnswers {
     private static void back() {
         Doc.promise(33, "All is as in an IMAGE: the DAY;");
         ToffeeTown x = Due.made(TOWN, "pour 1");
-        x.note(0, 0, 0);
+        x.note(1, 2, 10);
         x.seed(4);
+        String begin = Due.seen(x);
         x.day();
         x.ice(2);
         String was = Due.seen(x);
@@ -551,18 +552,23 @@ final class EdgesOfAnswers {
         Due.due("as it was", Due.seen(x).equals(was) ? 1 : 0, 1);
         x.undo();
         x.crack(0, 1);
-        x.note(-1, 0, 0);
         x.force(-1);
         x.seed(0);
-        Due.answers(x, 1, "back", 1);
-        Due.due("as it was", Due.seen(x).equals(was) ? 1 : 0, 1);
+        // NOTES that are not so, by the DAY, by the HOUSE or by the PLACE
+        for (int[] note : new int[][] {{0, 2, 10}, {1, 1, 10}, {1, 2, 9}}) {
+            x.note(-1, 0, 0);
+            Due.answers(x, 1, "note", note);
+            Due.answers(x, 0, "ruled", 0);
+            Due.answers(x, 1, "back", 1);
+            Due.due("as it was", Due.seen(x).equals(was) ? 1 : 0, 1);
+        }
         Due.town(x, "town 60 1 1;heat 1" + Due.times(";house 5", 6) + ";join 4 5 9;rock 5 9");
         x.day();
         Due.answers(x, 1, "back", 1);
         Due.due("as it was", Due.seen(x).equals(was) ? 1 : 0, 1);
         Due.answers(x, 1, "undo");
         Due.answers(x, 0, "undo");
-        Due.answers(x, 0, "count", 6);
+        Due.due("what is UNDONE is as it was", Due.seen(x).equals(begin) ? 1 : 0, 1);
     }
 
     private static void backRefused() {

@@ -225,6 +225,10 @@ final class EdgesOfAsking {
             Due.answers(x, order[house], "order", house);
         }
         Due.due("alone", Due.made("town 10 0 0;house 4", null).order(0), 0);
+        x = Due.made("town 10 0 0;heat 1;house 4;house 5;house 6;house 7;house 8;house 9", null);
+        for (int house = 0; house < 6; house++) {
+            Due.answers(x, 5 - house, "order", house);
+        }
         // In the RIVER behind DAYS 98, 99, 108 and never: at the begin of DAY 99, and of none of 100
         x = Due.made("town 20 0 0" + Due.times(";heat 0", 10) + ";heat 1;house 5;house 10;house 11", null);
         Due.due("the hundredth ahead of who never is", x.order(2), 0);
@@ -255,6 +259,9 @@ final class EdgesOfAsking {
         Due.refused(x, -1, "parts", -1, 0);
         Due.refused(x, -1, "parts", 10000, 0);
         shares(Due.made("town 60 0 0;house 0;rock 0 9", null), 9999, 9999);
+        Due.due("the least that one can have", Due.made("town 60 0 0;house 0;house 1;rock 1 1", null).parts(9999, 1), 9999);
+        x = Due.made("town 60 0 0" + Due.times(";house 0", 6) + ";rock 0 1;rock 1 2;rock 2 3;rock 3 4;rock 4 5;rock 5 9", null);
+        shares(x, 24, 1, 2, 3, 4, 5, 9);
     }
 
     private static void whatIsLeft() {

@@ -168,6 +168,9 @@ final class EdgesOfDays {
         hardens(town, "pour 5 if 1=2;pour 6 if 2=3", 1, 1);
         hardens(town, "pour 5 if 1=2;pour one+1", 1, 2);
         hardens(town, "pour 0;pour 9", 1, 1);
+        hardens(town, "pour 0 if 1=1", 1, 1);
+        hardens(town, "pour one if 1=1", 1, 2);
+        hardens(town, "pour 3-one if 1=1;pour 9", 2, 1);
         hardens(town, "pour 0 if one=0;pour 7;pour 99 if one=0", 1, 2);
         hardens(town, "pour 1;pour 9 if one=1", 2, 1);
         hardens(town, "pour 1" + Due.times(" if 1=2;pour 1", 10) + " if 1=2;pour one", 1, 2);
@@ -296,6 +299,27 @@ final class EdgesOfDays {
         Due.answers(x, 9, "pourOf", 1, 2);
         Due.answers(x, 1, "house", 0, 3);
         Due.answers(x, 0, "house", 0, 4);
+        for (int gone = 0; gone < 6; gone++) {
+            looseOfSix(gone);
+        }
+    }
+
+    /** Six HOUSES with all pours, all but one of them FAST: that one goes into the RIVER. */
+    private static void looseOfSix(int gone) {
+        StringBuilder town = new StringBuilder("town 20 0 9;heat 4");
+        for (int house = 0; house < 6; house++) {
+            town.append(house == gone ? ";house 19" : ";house 0;rock " + house + " 9");
+        }
+        for (int one = 0; one < 6; one++) {
+            for (int other = one + 1; other < 6; other++) {
+                town.append(";join ").append(one).append(' ').append(other).append(" 4");
+            }
+        }
+        ToffeeTown x = Due.made(town.toString(), null);
+        Due.answers(x, 1, "day");
+        for (int house = 0; house < 6; house++) {
+            Due.answers(x, house == gone ? 0 : 63 - (1 << house) - (1 << gone), "house", house, 2);
+        }
     }
 
     private static void sticking() {

@@ -102,6 +102,9 @@ final class EdgesOfRules {
         Due.noRule("pour 1 if [1@]=1", Due.WRONG);
         Due.noRule("pour 1 if 1@", Due.WRONG);
         Due.noRule("pour 1 if 1<@", Due.WRONG);
+        Due.noRule("pour 1 if 1<=@", Due.WRONG);
+        Due.noRule("pour 1 if 1>=@", Due.WRONG);
+        Due.noRule("pour 1 if 1=@", Due.WRONG);
         Due.noRule("pour 1 if @<1", Due.WRONG);
         Due.noRule("pour 1 if 1=@=1", Due.WRONG);
         Due.noRule("pour 1 if 1=@>1", Due.WRONG);
@@ -154,6 +157,8 @@ final class EdgesOfRules {
             Due.isRule("pour " + word);
             Due.noRule("pour @" + word + "s", Due.WRONG);
             Due.noRule("pour @" + word.substring(0, 2), Due.WRONG);
+            Due.noRule("pour @x" + word.substring(1), Due.WRONG);
+            Due.noRule("pour @" + word.substring(0, word.length() - 1) + "x", Due.WRONG);
             Due.noRule("pour @" + word.substring(0, 1).toUpperCase() + word.substring(1), Due.WRONG);
         }
         Due.isRule("pour hard+1if hard=1");
@@ -344,6 +349,12 @@ final class EdgesOfRules {
         Due.noRule(facts + "or 1=@1", Due.MANY);
         // not and brackets are none of these
         Due.isRule("pour 1" + Due.times("+1", 56) + " if not[not[1=1]]");
+        // Of each RULE by itself, one with a FAULT, too
+        ToffeeTown x = new ToffeeTown();
+        for (int rule = 0; rule < 6; rule++) {
+            Due.due("one too many", Due.rule(x, "pour 1" + Due.times("+1", 60)), Due.fault(125, Due.MANY));
+            Due.due("a RULE of 60", Due.rule(x, "pour 1" + Due.times("+1", 59)), rule);
+        }
         // Each of 12 CLAUSES: five together
         String five = "pour 1+1 if 1=1";
         Due.isRule(five + Due.times(";" + five, 11));

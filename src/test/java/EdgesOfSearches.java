@@ -313,6 +313,22 @@ final class EdgesOfSearches {
         Due.answers(x, 2, "look", 1, 1);
         x.note(1, 2, 10);
         Due.answers(x, 1, "look", 1, 1);
+        // Those that are alike need not be the first
+        x = Due.made("town 20 9 0;heat 3" + Due.times(";house 0", 5) + ";house 5;join 0 5 3;rock 5 9", "pour 1");
+        Due.answers(x, 1, "look", 1, 1);
+        Due.rule(x, "pour 2");
+        Due.answers(x, 2, "look", 1, 1);
+        Due.rule(x, "pour 3");
+        Due.answers(x, 3, "look", 1, 1);
+        Due.answers(x, 0, "look", 1, 0);
+        // Six RULES, and none, of six HOUSES: three RULES harden the pour of the last one
+        x = Due.made("town 20 9 0;heat 3" + Due.times(";house 0", 6) + ";rock 0 9;join 5 0 3", "pour 0");
+        for (int rule = 1; rule < 6; rule++) {
+            Due.rule(x, "pour " + rule / 3);
+        }
+        Due.answers(x, 7, "ruled", 0);
+        Due.answers(x, 5, "look", 1, 0);
+        Due.answers(x, 4, "look", 1, 1);
     }
 
     /** What DRAWS make of one HOUSE without a pour that goes down by each DAY's HEAT, on a HILL of 60 and told HEAT 0. */

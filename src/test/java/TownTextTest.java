@@ -56,69 +56,62 @@ public final class TownTextTest {
         Due.due("no pour of the one before", x.pourOf(0, 1), 0);
     }
 
-    private static void faulty(String text, int place, int kind) {
-        ToffeeTown x = new ToffeeTown();
-        Due.due("town '" + text + "'", Due.town(x, text), Due.fault(place, kind));
-        Due.due("no TOWN behind '" + text + "'", x.count(0), 0);
-        Due.due("no TAPE behind '" + text + "'", x.count(15), 0);
-    }
-
     private static void faultsOfBytes() {
-        faulty("", 0, 0);
-        faulty("   ", 3, 0);
-        faulty(";", 0, 0);
-        faulty("5", 0, 0);
-        faulty("towns 5 0 0", 0, 0);
-        faulty("Town 5 0 0", 0, 0);
-        faulty("tow", 0, 0);
-        faulty("town", 4, 0);
-        faulty("town  ", 6, 0);
-        faulty("town 5 0", 8, 0);
-        faulty("town 5 0 0;", 11, 0);
-        faulty("town 5 0 0; ", 12, 0);
-        faulty("town 5 0 0;;", 11, 0);
-        faulty("town 5 0 0 0", 11, 0);
-        faulty("town 5 0 0 heat 5", 11, 0);
-        faulty("town 5x0 0", 6, 0);
-        faulty("town -5 0 0", 5, 0);
-        faulty("town 5 0 0\n", 10, 0);
-        faulty("town 5 0 0" + (char) 233, 10, 0);
-        faulty("town 5 0 0" + (char) 0, 10, 0);
-        faulty("town 5 0 0;pour 1", 11, 0);
-        faulty("town 5 0 0;heat heat", 16, 0);
-        faulty("pour 1", 0, 0);
+        Due.townFault("", 0, 0);
+        Due.townFault("   ", 3, 0);
+        Due.townFault(";", 0, 0);
+        Due.townFault("5", 0, 0);
+        Due.townFault("towns 5 0 0", 0, 0);
+        Due.townFault("Town 5 0 0", 0, 0);
+        Due.townFault("tow", 0, 0);
+        Due.townFault("town", 4, 0);
+        Due.townFault("town  ", 6, 0);
+        Due.townFault("town 5 0", 8, 0);
+        Due.townFault("town 5 0 0;", 11, 0);
+        Due.townFault("town 5 0 0; ", 12, 0);
+        Due.townFault("town 5 0 0;;", 11, 0);
+        Due.townFault("town 5 0 0 0", 11, 0);
+        Due.townFault("town 5 0 0 heat 5", 11, 0);
+        Due.townFault("town 5x0 0", 6, 0);
+        Due.townFault("town -5 0 0", 5, 0);
+        Due.townFault("town 5 0 0\n", 10, 0);
+        Due.townFault("town 5 0 0" + (char) 233, 10, 0);
+        Due.townFault("town 5 0 0" + (char) 0, 10, 0);
+        Due.townFault("town 5 0 0;pour 1", 11, 0);
+        Due.townFault("town 5 0 0;heat heat", 16, 0);
+        Due.townFault("pour 1", 0, 0);
     }
 
     private static void faultsOfNumbers() {
-        faulty("town 4 0 0", 5, 1);
-        faulty("town 61 0 0", 5, 1);
-        faulty("town 000005 0 0", 5, 1);
-        faulty("town 5 100 0", 7, 1);
-        faulty("town 5 0 10", 9, 1);
-        faulty("town 5 0 99999999999", 9, 1);
-        faulty("town 5 0 0;heat 10", 16, 1);
-        faulty("town 5 0 0;house 5", 17, 1);
-        faulty("town 5 0 0;join 0 1 1;house 0;house 1", 16, 1);
-        faulty("town 5 0 0;house 0;join 0 1 1;house 1", 26, 1);
-        faulty("town 5 0 0;house 0;house 1;join 1 1 1", 34, 1);
-        faulty("town 5 0 0;house 0;house 1;join 1 01 1", 34, 1);
-        faulty("town 5 0 0;house 0;house 1;join 2 1 1", 32, 1);
-        faulty("town 5 0 0;house 0;house 1;join 1 0 0", 36, 1);
-        faulty("town 5 0 0;house 0;house 1;join 1 0 10", 36, 1);
-        faulty("town 5 0 0;rock 0 1;house 0", 16, 1);
-        faulty("town 5 0 0;house 0;rock 0 0", 26, 1);
-        faulty("town 5 0 0;house 0;rock 0 10", 26, 1);
-        faulty("town 5 0 0;house 0;rock 1 9", 24, 1);
+        Due.townFault("town 4 0 0", 5, 1);
+        Due.townFault("town 61 0 0", 5, 1);
+        Due.townFault("town 000005 0 0", 5, 1);
+        Due.townFault("town 5 100 0", 7, 1);
+        Due.townFault("town 5 0 10", 9, 1);
+        Due.townFault("town 5 0 99999999999", 9, 1);
+        Due.townFault("town 5 0 0;heat 10", 16, 1);
+        Due.townFault("town 5 0 0;house 5", 17, 1);
+        Due.townFault("town 5 0 0;join 0 1 1;house 0;house 1", 16, 1);
+        Due.townFault("town 5 0 0;house 0;join 0 1 1;house 1", 26, 1);
+        Due.townFault("town 5 0 0;house 0;house 1;join 1 1 1", 34, 1);
+        Due.townFault("town 5 0 0;house 0;house 1;join 1 01 1", 34, 1);
+        Due.townFault("town 5 0 0;house 0;house 1;join 2 1 1", 32, 1);
+        Due.townFault("town 5 0 0;house 0;house 1;join 1 0 0", 36, 1);
+        Due.townFault("town 5 0 0;house 0;house 1;join 1 0 10", 36, 1);
+        Due.townFault("town 5 0 0;rock 0 1;house 0", 16, 1);
+        Due.townFault("town 5 0 0;house 0;rock 0 0", 26, 1);
+        Due.townFault("town 5 0 0;house 0;rock 0 10", 26, 1);
+        Due.townFault("town 5 0 0;house 0;rock 1 9", 24, 1);
     }
 
     private static void faultsOfClauses() {
-        faulty("house 1", 0, 4);
-        faulty("  heat 1", 2, 4);
-        faulty("join", 0, 4);
-        faulty("rock 99999999", 0, 4);
-        faulty("town 5 0 0; town 5 0 0", 12, 4);
-        faulty("town 5 0 0" + Due.times(";heat 9", 13), 11 + 12 * 7, 4);
-        faulty("town 5 0 0" + Due.times(";house 0", 7), 11 + 6 * 8, 4);
+        Due.townFault("house 1", 0, 4);
+        Due.townFault("  heat 1", 2, 4);
+        Due.townFault("join", 0, 4);
+        Due.townFault("rock 99999999", 0, 4);
+        Due.townFault("town 5 0 0; town 5 0 0", 12, 4);
+        Due.townFault("town 5 0 0" + Due.times(";heat 9", 13), 11 + 12 * 7, 4);
+        Due.townFault("town 5 0 0" + Due.times(";house 0", 7), 11 + 6 * 8, 4);
         Due.due("12 heats", Due.town(new ToffeeTown(), "town 5 0 0" + Due.times(";heat 9", 12)), 0);
         Due.due("6 HOUSES", Due.town(new ToffeeTown(), "town 5 0 0" + Due.times(";house 0", 6)), 6);
     }
@@ -126,12 +119,12 @@ public final class TownTextTest {
     private static void fortyClauses() {
         String forty = "town 5 0 0;house0" + Due.times(";rock0 1", 38);
         Due.due("40 CLAUSES", Due.town(new ToffeeTown(), forty), 1);
-        faulty(forty + ";rock0 1", forty.length() + 1, 4);
-        faulty(forty + ";  rocks", forty.length() + 3, 0);
-        faulty(forty + ";7", forty.length() + 1, 0);
-        faulty(forty + "; ", forty.length() + 2, 0);
+        Due.townFault(forty + ";rock0 1", forty.length() + 1, 4);
+        Due.townFault(forty + ";  rocks", forty.length() + 3, 0);
+        Due.townFault(forty + ";7", forty.length() + 1, 0);
+        Due.townFault(forty + "; ", forty.length() + 2, 0);
         String full = forty + Due.times(" ", 400 - forty.length());
         Due.due("400 bytes", Due.town(new ToffeeTown(), full), 1);
-        faulty("town 5 0 0" + Due.times(" ", 389) + ";", 400, 0);
+        Due.townFault("town 5 0 0" + Due.times(" ", 389) + ";", 400, 0);
     }
 }
